@@ -298,6 +298,7 @@ public final class CodesTest {
         for (int iv = 0; iv <= IV; iv += IV) {
             rig("by 0").program(30, 0, 0x51).with(1, -8).status(iv | C | Z).run(1).excepted(7, 1).register(1, -8)
                     .look(1588, 2).look(1592, 131).look(1596, iv | N | V).hasInner(0, 1588).hasStatus(0);
+            rig("once").program(30, 0, 0x51).bytes(1112, 1).status(iv).run(2).state(3, 1).register(15, 1113);
             rig("0 by 0").program(30, 0, 0x51).with(1, 0).status(iv).run(1).excepted(7, 1).look(1588, 2).look(1596, iv | Z | V);
             rig("by 0, to the third").program(37, 0, 0x51, 0x52).with(1, 8).with(2, 1).status(iv).run(1).excepted(7, 1)
                     .register(2, 8).look(1588, 2).look(1592, 132).look(1596, iv | V);

@@ -88,12 +88,20 @@ public final class FramesTest {
                 .register(13, 0x80000038);
     }
 
+    /** The mask is two bytes: here the last of a page, and the next isn't VALID. */
+    private static void maskAtTheEnd() {
+        Rig rig = rig("mask at a page's end").inner(12, 1024).inner(13, 2).longAt(1024, 0xF8000002).longAt(1028, 0x78000003);
+        rig.bytes(128, 68, 0, 0x61).bytes(190, 2, 0x40).with(1, 0x8000003E).with(15, 0x80000000).inner(0, 0x80000038);
+        rig.inner(56, 1).run(1).state(3, 0).register(15, 0x80000040).hasStatus(IV).register(14, 0x8000001C);
+    }
+
     public static void main(String[] args) {
         enters();
         refuses();
         leaves();
         refusesToLeave();
         orderOfFaults();
+        maskAtTheEnd();
         CHECK.end();
     }
 }

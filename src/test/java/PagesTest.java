@@ -104,7 +104,15 @@ public final class PagesTest {
         mapped("half of it").bytes(128, move, 0x52, 0x61).with(2, -1).with(1, 126).inner(0, SYSTEM + 100).longAt(638, 0)
                 .run(1).state(2, 5).look(638, 0).look(1292, ALL + 9).look(1280 + 20, 4).look(1280 + 24, 128)
                 .look(1280 + 28, SYSTEM);
-        // Unmapped, nothing is marked.
+        mapped("the last byte before a page that isn't VALID").bytes(128, 13, 5, 0x61).with(1, 127).run(1).state(3, 0)
+                .look(636, 5 << 24);
+        // Entry and byte may be at 0 in storage.
+        rig("at 0").inner(12, 0).inner(13, 3).longAt(0, ALL + 3).longAt(4, ALL + 2).longAt(8, ALL).with(15, SYSTEM + 64)
+                .bytes(128, 14, 5, 0x61, 14, 6, 0x62).with(1, SYSTEM).with(2, SYSTEM + 128).inner(56, 1).run(1).look(192, 5)
+                .look(0, ALL + 3 + (1 << 26)).run(1).look(0, 6).state(3, 0);
+        // Unmapped, nothing is marked, though an entry was found before.
+        mapped("unmapped again").bytes(128, 20, 0x61, 20, 0x61).with(1, 0).run(1).longAt(1288, ALL).inner(56, 0).with(15, 130)
+                .run(1).look(1288, ALL);
         rig("unmapped").program(move, 5, 0x61).with(1, 600).inner(12, 1024).longAt(1024, ALL).run(1).look(1024, ALL);
     }
 
@@ -182,6 +190,8 @@ public final class PagesTest {
                     .hasStatus(mode <= 1 ? 4 : 0).look(1288, 0xB8000008);
         }
         w.longAt(1288, 0x38000008).status(0).with(1, 1).with(15, SYSTEM).run(1).hasStatus(4);
+        rig("probe of 0 in storage").inner(12, 1024).inner(13, 2).longAt(1024, ALL).longAt(1028, ALL + 2).with(1, SYSTEM)
+                .bytes(128, 69, 0, 1, 0x61).with(15, SYSTEM + 64).inner(56, 1).run(1).hasStatus(4).state(3, 0);
         rig("probe when not MAPPED").program(70, 3, 0, 0x61).with(1, -7).run(1).hasStatus(4);
     }
 
