@@ -300,27 +300,19 @@ public final class QuadMode {
         }
 
         private boolean isThere(int region, int page) {
-            switch (region) {
-                case 0:
-                    return isBelow(page, inner[L0]);
-                case 1:
-                    return !isBelow(page, inner[L1]);
-                case SYSTEM:
-                    return isBelow(page, inner[LS]);
-                default:
-                    return false;
+            if (region > SYSTEM) {
+                return false;
             }
+            int limit = inner[region == SYSTEM ? LS : region == 1 ? L1 : L0];
+            // A limit has no sign: one below 0 stands above every page.
+            boolean isBelow = limit < 0 || page < limit;
+            return isBelow == (region != 1);
         }
 
         private static boolean grants(int found, boolean write, int mode) {
             int reader = found >>> 27 & 3;
             int writer = found >>> 29 & 3;
             return write ? mode <= writer && writer <= reader : mode <= reader;
-        }
-
-        /** A limit has no sign: one below 0 stands above every page. */
-        private static boolean isBelow(int page, int limit) {
-            return limit < 0 || page < limit;
         }
 
         private static boolean isValid(int found) {
