@@ -1,11 +1,16 @@
 /** Counts and prints what is not as due. */
 final class Check {
     private int wrong;
+    private String about = "";
+
+    /** The words of the document that the checks to come hold the class to; printed if one fails. */
+    void about(String words) {
+        about = words;
+    }
 
     void due(String what, long got, long want) {
         if (got != want) {
-            wrong++;
-            System.out.println(what + " answered " + got + ", due is " + want);
+            fail(what + " answered " + got + ", due is " + want);
         }
     }
 
@@ -15,13 +20,11 @@ final class Check {
             call.run();
         } catch (RuntimeException e) {
             if (e.getClass() != due) {
-                wrong++;
-                System.out.println(what + " threw " + e + ", due is " + due);
+                fail(what + " threw " + e + ", due is " + due);
             }
             return;
         }
-        wrong++;
-        System.out.println(what + " threw nothing, due is " + due);
+        fail(what + " threw nothing, due is " + due);
     }
 
     void end() {
@@ -29,5 +32,10 @@ final class Check {
             System.out.println(wrong + " wrong");
             System.exit(1);
         }
+    }
+
+    private void fail(String how) {
+        wrong++;
+        System.out.println((about.isEmpty() ? "" : "\"" + about + "\": ") + how);
     }
 }

@@ -341,6 +341,11 @@ final class Oracle {
         return count;
     }
 
+    /** The kinds of a code's operands, such as rL, or d; the code is one of 0 to 70. */
+    static String[] kindsOf(int code) {
+        return SHAPES[code].isEmpty() ? new String[0] : SHAPES[code].split(" ");
+    }
+
     private void step() {
         int[] r = regs.clone();
         int[] st = stacks.clone();
@@ -356,7 +361,7 @@ final class Oracle {
             if (code > 70 || (mode() != 0 && (code == 0 || code == 10 || code == 11))) {
                 throw new Fault(1, 0, 0);
             }
-            String[] kinds = SHAPES[code].isEmpty() ? new String[0] : SHAPES[code].split(" ");
+            String[] kinds = kindsOf(code);
             Op[] o = new Op[3];
             for (int i = 0; i < kinds.length; i++) {
                 o[i] = operand(kinds[i]);
