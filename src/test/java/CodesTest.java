@@ -44,6 +44,70 @@ public final class CodesTest {
         }
     }
 
+    /** A long is written, and its bytes are read: all 256 of them, without a sign. */
+    private static void bytesWithoutSigns() {
+        for (int v = 0; v < 256; v++) {
+            rig("a byte of a register").program(15, 0x51, 0x52).with(1, 0xABCDEF00 | v).passes().register(2, v);
+            rig("a byte in memory").program(15, 0x61, 0x52).with(1, 600).bytes(600, v, 0xEE).passes().register(2, v);
+            rig("a byte behind").program(15, 0x8F, v, 0x52).passes().register(2, v);
+            rig("a byte with its sign").program(16, 0x8F, v, 0x52).passes().register(2, v < 128 ? v : v - 256);
+        }
+    }
+
+    private static void lowestFirst() {
+        rig("written").program(14, 0x51, 0x62).with(1, 0x84030201).with(2, 601).passes().look(600, 0x03020100).look(604, 0x84);
+        for (int i = 0; i < 4; i++) {
+            rig("byte " + i).program(14, 0x51, 0x62, 15, 0xA2, i, 0x50).with(1, 0x84030201).with(2, 600).run(2)
+                    .register(0, 0x84030201 >>> 8 * i & 255);
+        }
+        rig("read").program(14, 0x61, 0x50).with(1, 600).bytes(600, 1, 2, 3, 0x84).passes().register(0, 0x84030201);
+    }
+
+    /** N and Z alone, V and C 0: of those whose C does not stay. */
+    private static void nAndZ() {
+        int[] codes = {11, 17, 21, 22};
+        for (int code : codes) {
+            for (int before = 0; before < 16; before++) {
+                int[] values = {-1, 0, 1};
+                int[] due = {N, Z, 0};
+                for (int i = 0; i < 3; i++) {
+                    Rig rig = rig(code + " of " + values[i]).status(before).inner(8, values[i]).with(1, values[i]);
+                    if (code == 11) {
+                        rig.program(11, 8, 0x52);
+                    } else {
+                        rig.program(code, 0x51, 0x52);
+                    }
+                    rig.passes().hasStatus(due[i]);
+                }
+            }
+        }
+    }
+
+    private static void halt() {
+        for (int before = 0; before < 16; before++) {
+            rig("halt").program(0).status(before | IV).run(1).state(0, 1).hasStatus(before | IV).register(14, 1600)
+                    .register(15, 129).state(3, 0);
+        }
+    }
+
+    private static void rsb() {
+        int[] values = {0, -1, LEAST, GREATEST, 128};
+        for (int v : values) {
+            rig("rsb to " + v).program(5).longAt(1600, v).status(47).passes().register(15, v).register(14, 1604).hasStatus(47);
+        }
+        Rig.mapped(CHECK, "rsb that can't pop").bytes(128, 5).status(0x03C00000).with(14, 126).inner(0, Rig.SYSTEM + 128).run(1)
+                .state(2, 5).look(1336, Rig.SYSTEM).look(1332, 128).look(1328, 0).hasInner(3, 126);
+    }
+
+    private static void goAndCall() {
+        int[] distances = {0, 1, 127, -128, -2, -1};
+        for (int d : distances) {
+            rig("go " + d).program(48, d).status(47).passes().register(15, 130 + d).register(14, 1600).hasStatus(47);
+            rig("call " + d).program(49, d).status(47).passes().register(15, 130 + d).register(14, 1596).look(1596, 130)
+                    .hasStatus(47);
+        }
+    }
+
     private static void nop() {
         rig("nop").program(1).status(0x03C0002F).passes().register(15, 129).hasStatus(0x03C0002F);
     }
@@ -278,6 +342,16 @@ public final class CodesTest {
             }
             rig("by 0 in memory").program(30, 0x62, 0x61).with(1, 600).with(2, 700).longAt(600, 77).status(iv).run(1)
                     .excepted(7, 1).look(600, 77).look(1588, 2);
+        }
+    }
+
+    private static void trapOf0() {
+        for (int iv = 0; iv <= IV; iv += IV) {
+            int[][] programs = {{30, 0, 0x51}, {30, 0x52, 0x51}, {37, 0, 0x51, 0x53}, {37, 0x52, 0x51, 0x51}};
+            for (int[] program : programs) {
+                rig("trap 2").program(program).with(1, LEAST).status(iv).run(1).excepted(7, 1).look(1588, 2)
+                        .look(1592, 128 + program.length).hasInner(0, 1588).hasStatus(0);
+            }
             rig("one trap alone").program(30, 0, 0x51).bytes(1112, 1).status(iv).run(2).state(3, 1).register(15, 1113);
             rig("what moved stays so").program(30, 0x81, 0x71).with(1, 600).status(iv).run(1).excepted(7, 1)
                     .register(1, 600);
@@ -566,6 +640,13 @@ public final class CodesTest {
 
     public static void main(String[] args) {
         Words words = new Words(CHECK);
+        words.hold("bytes are taken without a sign where nothing is said", CodesTest::bytesWithoutSigns);
+        words.hold("a LONG is four bytes, the lowest first", CodesTest::lowestFirst);
+        words.hold("n and z of a result: N if it is below 0 (of a byte: its bit 7), Z if it is 0; V and C are 0, or as told",
+                CodesTest::nAndZ);
+        words.hold("0 HALT", CodesTest::halt);
+        words.hold("5 RSB: PC is popped", CodesTest::rsb);
+        words.hold("48 GO d 49 CALL d", CodesTest::goAndCall);
         words.hold("1 NOP", CodesTest::nop);
         words.hold("12 STATUS wL: the status", CodesTest::status);
         words.hold("13 MOVE BYTE rB wB", CodesTest::moveByte);
@@ -587,6 +668,7 @@ public final class CodesTest {
         words.hold("30 DIVIDE rL mL: second / first, towards 0: n z", CodesTest::divide);
         words.hold("the least int by -1: likewise (no trap 2)", CodesTest::leastByMinus1);
         words.hold("by 0: the second stays, V, and n z of it", CodesTest::byZero);
+        words.hold("when it divides by 0, with 2 (this goes ahead, whatever IV is)", CodesTest::trapOf0);
         words.hold("31 SET BITS rL mL: second | first, 32 CLEAR BITS: second & ~first, 33 DIFFER: ^: n z, C stays",
                 CodesTest::bits);
         words.hold("34 .. 40: as 27 .. 33, but rL rL wL: the result goes to the third", CodesTest::toTheThird);

@@ -230,6 +230,42 @@ public final class ModesTest {
         }
     }
 
+    private static void addressThenFlag() {
+        for (int w = 0; w < 2; w++) {
+            Rig.mapped(CHECK, "ACCESS").bytes(128, w == 0 ? 21 : 20, 0x61).with(1, -1).inner(0, SYSTEM + 128).status(5).run(1)
+                    .excepted(4, 1).look(1340, 5).look(1336, SYSTEM).look(1332, -1).look(1328, 1 + 4 * w)
+                    .hasInner(0, SYSTEM + 112);
+            Rig.mapped(CHECK, "INVALID").bytes(128, w == 0 ? 21 : 20, 0x61).with(1, 130).inner(0, SYSTEM + 128).status(5).run(1)
+                    .excepted(5, 1).look(1340, 5).look(1336, SYSTEM).look(1332, 130).look(1328, 4 * w)
+                    .hasInner(0, SYSTEM + 112);
+        }
+        // The others push nothing more.
+        rig("INSTRUCTION").program(71).run(1).excepted(1, 1).hasInner(0, 1592).look(1588, 0);
+        rig("OPERAND").program(11, 5, 0x51).run(1).excepted(2, 1).hasInner(0, 1592).look(1588, 0);
+        rig("MODE").program(21, 0xC0).run(1).excepted(3, 1).hasInner(0, 1592).look(1588, 0);
+        rig("BREAK").program(3).run(1).excepted(6, 1).hasInner(0, 1592).look(1588, 0);
+    }
+
+    private static void statusThen() {
+        for (int modes = 0; modes < 16; modes++) {
+            int mode = modes >> 2;
+            int s = modes << 22 | 47;
+            rig("fault").program(3).status(s).run(1).hasStatus(mode << 22).look(1596, s);
+            rig("trap").program(30, 0, 0x51).status(s).run(1).hasStatus(mode << 22);
+            for (int to = 0; to < 4; to++) {
+                rig("change").program(6 + to, 1).status(s).run(1).hasStatus(Math.min(to, mode) << 24 | mode << 22);
+            }
+        }
+    }
+
+    private static void becomeThese() {
+        int[] all = {0, 47, 0x00C00000, 0x01400005, 0x02800020, 0x03C0002F};
+        for (int s : all) {
+            rig("rei to " + s).program(2).longs(1600, 777, s).status(0x0080000F).passes().hasStatus(s).register(15, 777)
+                    .hasInner(0, 1608);
+        }
+    }
+
     private static void vectors() {
         int[] tables = {0, 1, 1000, 2000, 2047, 2048, -1, -44, LEAST, GREATEST};
         for (int table : tables) {
@@ -341,6 +377,7 @@ public final class ModesTest {
         words.hold("OPERAND, if it has bits that must be 0", ModesTest::reiByBits);
         words.hold("(each mode's stack register stays its own)", ModesTest::reiKeepsStacks);
         words.hold("REI: PC is popped, then a status", ModesTest::reiPops);
+        words.hold("PC and status become these", ModesTest::becomeThese);
         words.hold("0, 10 and 11 in another mode than 0", ModesTest::privileged);
         words.hold("and all codes above 70: INSTRUCTION, before operands are looked for", ModesTest::noSuchCode);
         words.hold("10 PUT INNER rL rL: the first into the inner register of the second's number", ModesTest::putInner);
@@ -351,6 +388,8 @@ public final class ModesTest {
         words.hold("(not what it wrote in storage)", ModesTest::storageIsNotTakenBack);
         words.hold("as they were before the instruction (of a fault)", ModesTest::pushedOfAFault);
         words.hold("or as it left them", ModesTest::pushedOfATrap);
+        words.hold("for 4 and 5 the address, then the flag", ModesTest::addressThenFlag);
+        words.hold("The status is then: MODE this one, PREVIOUS that before, all else 0", ModesTest::statusThen);
         words.hold("PC is the long in storage at VECTORS + 4 * its number.", ModesTest::vectors);
         words.hold("faults that undo an instruction so that it can be begun once more", ModesTest::onceMore);
         words.hold("If something can't be pushed, the machine is DEAD", ModesTest::deadOfEach);

@@ -225,10 +225,6 @@ public final class OperandsTest {
         rig("aB of PROBE").program(69, 0, 1, 0x8F, 77).passes().register(15, 133).hasStatus(4);
         rig("JUMP").program(46, 0x8F, 1).passes().register(15, 130);
         rig("CALL").program(47, 0x8F, 1).passes().register(15, 130).look(1596, 131);
-        rig("wL").program(CLEAR, 0x8F, 1, 2, 3, 4).faults(3).look(130, 0x04030201);
-        rig("wB").program(MOVE_BYTE, 1, 0x8F, 1).faults(3);
-        rig("mL").program(INCREMENT, 0x8F, 1, 2, 3, 4).faults(3).look(130, 0x04030201);
-        rig("mL, second").program(ADD, 1, 0x8F, 1, 2, 3, 4).faults(3);
         // An address is no reading: only the byte behind the specifier can't be reached, and no one reaches it.
         Rig.mapped(CHECK, "an address at the end").longAt(1028, Rig.SHUT + 20).bytes(190, 46, 0x8F).with(15, SYSTEM + 62)
                 .passes().register(15, SYSTEM + 64);
@@ -260,14 +256,48 @@ public final class OperandsTest {
             rig("10, " + d).program(ADDRESS, 0xA1, d, 0x50).with(1, 600).passes().register(0, 600 + d).register(1, 600)
                     .register(15, 132);
             rig("10, PC, " + d).program(ADDRESS, 0xAF, d, 0x50).passes().register(0, 131 + d).register(15, 132);
-            rig("11, " + d).program(ADDRESS, 0xB1, d, 0x50).with(1, 600).longAt(600 + d, -9).passes().register(0, -9)
-                    .register(1, 600);
         }
         rig("10 over the greatest").program(ADDRESS, 0xA1, 127, 0x50).with(1, GREATEST).passes().register(0, LEAST + 126);
         rig("10 under the least").program(ADDRESS, 0xA1, -128, 0x50).with(1, LEAST).passes().register(0, GREATEST - 127);
+        rig("behind 4: PC behind both").program(ADDRESS, 0x41, 0xAF, 10, 0x50).with(1, 0).passes().register(0, 142);
+    }
+
+    private static void byteBehindDeferred() {
+        int[] distances = {0, 1, 127, -128, -127, -1};
+        for (int d : distances) {
+            rig("11, " + d).program(ADDRESS, 0xB1, d, 0x50).with(1, 600).longAt(600 + d, -9).passes().register(0, -9)
+                    .register(1, 600).register(15, 132);
+        }
+        rig("11, read").program(MOVE, 0xB1, 4, 0x50).with(1, 600).longAt(604, 700).longAt(700, 9).passes().register(0, 9);
+        rig("11, written").program(MOVE, 5, 0xB1, 4).with(1, 600).longAt(604, 700).passes().look(700, 5).look(604, 700);
+        rig("11, byte").program(MOVE_BYTE, 5, 0xB1, 4).with(1, 600).longAt(604, 700).passes().look(700, 5).look(604, 700);
         rig("11, PC").program(MOVE, 0xBF, 9, 0x50).longAt(140, 700).longAt(700, 9).passes().register(0, 9);
         rig("11, PC, back").program(MOVE, 0xBF, -31, 0x50).longAt(100, 700).longAt(700, 9).passes().register(0, 9);
-        rig("behind 4: PC behind both").program(ADDRESS, 0x41, 0xAF, 10, 0x50).with(1, 0).passes().register(0, 142);
+        rig("11 round the end").program(ADDRESS, 0xB1, -4, 0x50).with(1, 2).bytes(2046, 1, 2).bytes(0, 3, 4).passes()
+                .register(0, 0x04030201);
+        Rig.mapped(CHECK, "11, the long isn't there").bytes(128, ADDRESS, 0xB1, 4, 0x50).with(1, 120).inner(0, SYSTEM + 128)
+                .bytes(130, 7).run(1).state(2, 5).look(1332, 128).look(1328, 0);
+    }
+
+    private static void fiveForA() {
+        int[] codes = {ADDRESS, BYTE_ADDRESS, 45, 46, 47};
+        for (int code : codes) {
+            for (int n = 0; n < 16; n++) {
+                rig("code " + code + " of R" + n).program(code, 0x50 + n, 0x50).faults(3);
+            }
+        }
+        rig("68").program(68, 1, 0x51).faults(3);
+        rig("69").program(69, 1, 1, 0x51).faults(3);
+        rig("70").program(70, 1, 1, 0x51).faults(3);
+    }
+
+    private static void eightWith15() {
+        rig("wL").program(CLEAR, 0x8F, 1, 2, 3, 4).faults(3).look(130, 0x04030201);
+        rig("wB").program(MOVE_BYTE, 1, 0x8F, 1).faults(3);
+        rig("wL, third").program(ADD3, 1, 1, 0x8F, 1, 2, 3, 4).faults(3);
+        rig("mL").program(INCREMENT, 0x8F, 1, 2, 3, 4).faults(3).look(130, 0x04030201);
+        rig("mL, second").program(ADD, 1, 0x8F, 1, 2, 3, 4).faults(3);
+        rig("mL of 64").program(64, 0x8F, 1, 2, 3, 4, 5).faults(3);
     }
 
     private static void longBehind() {
@@ -384,6 +414,18 @@ public final class OperandsTest {
         rig("over the greatest").with(15, GREATEST - 1).bytes(2046, 48, 127).passes().register(15, LEAST + 127);
     }
 
+    private static void behindTheInstruction() {
+        rig("62, a long behind").program(62, 0x8F, 1, 0, 0, 0, 10).passes().register(15, 135 + 10);
+        rig("64, displaced").program(64, 0xA1, 4, -10).with(1, 600).longAt(604, 5).passes().register(15, 132 - 10);
+        rig("67, indexed").program(67, 63, 0x41, 0x62, 100).with(1, 1).with(2, 600).passes().register(15, 133 + 100);
+        rig("49, pushed and gone by").program(49, -100).passes().register(15, 30).look(1596, 130);
+        for (int code = 50; code <= 61; code++) {
+            int taken = (code & 1) == 1 ? 15 : 0;
+            rig("branch " + code).program(code, -128).status(taken).passes().register(15, 2);
+            rig("branch " + code + ", not taken").program(code, -128).status(15 - taken).passes().register(15, 130);
+        }
+    }
+
     public static void main(String[] args) {
         Words words = new Words(CHECK);
         words.hold("each of a byte (B) or a long (L)", OperandsTest::sizes);
@@ -403,15 +445,19 @@ public final class OperandsTest {
                 OperandsTest::deferred);
         words.hold("10: it is Rn + a byte with its sign that stands behind (PC as it is behind that).",
                 OperandsTest::byteBehind);
+        words.hold("11: it is the long at the address of 10.", OperandsTest::byteBehindDeferred);
         words.hold("14, 15: likewise with a long that stands behind.", OperandsTest::longBehind);
         words.hold("MODE faults: 12 and 13", OperandsTest::noSuchWay);
         words.hold("4 to 7 with n = 15", OperandsTest::withRegister15);
+        words.hold("5 for a", OperandsTest::fiveForA);
+        words.hold("8 with n = 15 for w or m", OperandsTest::eightWith15);
         words.hold("behind 4: 0 .. 5, and 8 with n = 15", OperandsTest::behindFour);
         words.hold("Operands are found one behind the other", OperandsTest::oneBehindTheOther);
         words.hold("r and m are read when they are found", OperandsTest::readWhenFound);
         words.hold("what is written (one operand at most) is written at the end of the instruction, into a register as it is then",
                 OperandsTest::writtenAtTheEnd);
-        words.hold("A d that is gone by is added to PC as it is behind the instruction.", OperandsTest::distances);
+        words.hold("and d, a byte with its sign, a distance", OperandsTest::distances);
+        words.hold("A d that is gone by is added to PC as it is behind the instruction.", OperandsTest::behindTheInstruction);
         CHECK.end();
     }
 }

@@ -3,6 +3,7 @@ public final class PromisesTest {
     private static final Check CHECK = new Check();
     private static final int LEAST = Integer.MIN_VALUE;
     private static final int GREATEST = Integer.MAX_VALUE;
+    private static final int ONE = Rig.ONE;
     private static final int STATUS_BITS = 0x03C0002F;
     private static final Class<IndexOutOfBoundsException> NO_INDEX = IndexOutOfBoundsException.class;
     private static final Class<IllegalArgumentException> NO_ARGUMENT = IllegalArgumentException.class;
@@ -141,17 +142,28 @@ public final class PromisesTest {
         }
     }
 
-    private static void noSuchRegister() {
-        int[] none = {-1, 16, 17, 31, 32, -16, 256, LEAST, LEAST + 5, GREATEST};
-        for (int r : none) {
+    private static final int[] NO_REGISTERS = {-1, 16, 17, 31, 32, -16, 256, LEAST, LEAST + 5, GREATEST};
+
+    private static void setRefuses() {
+        for (int r : NO_REGISTERS) {
             Rig rig = rig("no register");
             rig.refused("set(" + r + ")", NO_INDEX, () -> rig.x.set(r, 77));
-            rig.refused("register(" + r + ")", NO_INDEX, () -> rig.x.register(r));
         }
         for (Rig rig : new Rig[] {halted(), dead()}) {
             rig.refused("set(16)", NO_INDEX, () -> rig.x.set(16, 1));
+            rig.refused("set(-1)", NO_INDEX, () -> rig.x.set(-1, 1));
+            rig.with(0, 8).register(0, 8).with(15, 9).register(15, 9);
+        }
+    }
+
+    private static void registerRefuses() {
+        for (int r : NO_REGISTERS) {
+            Rig rig = rig("no register");
+            rig.refused("register(" + r + ")", NO_INDEX, () -> rig.x.register(r));
+        }
+        for (Rig rig : new Rig[] {halted(), dead()}) {
+            rig.refused("register(16)", NO_INDEX, () -> rig.x.register(16));
             rig.refused("register(-1)", NO_INDEX, () -> rig.x.register(-1));
-            rig.with(15, 9).register(15, 9);
         }
     }
 
@@ -180,25 +192,42 @@ public final class PromisesTest {
         }
     }
 
-    private static void noSuchInner() {
-        int[] none = {-1, 4, 5, 6, 7, 14, 15, 16, 18, 55, 57, 58, 64, 256, 256 + 56, LEAST, LEAST + 8, GREATEST};
-        for (int k : none) {
+    private static final int[] NO_INNERS = {
+        -1, 4, 5, 6, 7, 14, 15, 16, 18, 55, 57, 58, 64, 256, 256 + 56, LEAST, LEAST + 8, GREATEST
+    };
+
+    private static boolean isInner(int k) {
+        return k >= 0 && k < 4 || k > 7 && k < 14 || k == 17 || k == 56;
+    }
+
+    private static void setInnerRefuses() {
+        for (int k : NO_INNERS) {
             Rig rig = rig("no inner register");
             rig.refused("setInner(" + k + ")", NO_INDEX, () -> rig.x.setInner(k, 1));
+        }
+        QuadMode x = new QuadMode();
+        for (int k = -100; k < 300; k++) {
+            int number = k;
+            if (isInner(k)) {
+                x.setInner(k, 0);
+            } else {
+                CHECK.throwing("setInner(" + k + ")", NO_INDEX, () -> x.setInner(number, 0));
+            }
+        }
+    }
+
+    private static void innerRefuses() {
+        for (int k : NO_INNERS) {
+            Rig rig = rig("no inner register");
             rig.refused("inner(" + k + ")", NO_INDEX, () -> rig.x.inner(k));
         }
-        for (int from = -60; from < 300; from += 120) {
-            QuadMode x = new QuadMode();
-            for (int k = from; k < from + 120; k++) {
-                int number = k;
-                boolean isOne = k >= 0 && k < 4 || k > 7 && k < 14 || k == 17 || k == 56;
-                if (isOne) {
-                    x.setInner(k, 0);
-                    CHECK.due("inner(" + k + ")", x.inner(k), 0);
-                } else {
-                    CHECK.throwing("setInner(" + k + ")", NO_INDEX, () -> x.setInner(number, 0));
-                    CHECK.throwing("inner(" + k + ")", NO_INDEX, () -> x.inner(number));
-                }
+        QuadMode x = new QuadMode();
+        for (int k = -100; k < 300; k++) {
+            int number = k;
+            if (isInner(k)) {
+                CHECK.due("inner(" + k + ")", x.inner(k), 0);
+            } else {
+                CHECK.throwing("inner(" + k + ")", NO_INDEX, () -> x.inner(number));
             }
         }
     }
@@ -238,6 +267,15 @@ public final class PromisesTest {
         }
     }
 
+    private static void theStatus() {
+        rig("new").hasStatus(0);
+        Rig rig = rig("status").program(26, 0x51, 3).status(0x01C00020).hasStatus(0x01C00020).run(1).hasStatus(0x01C00029);
+        rig.refused("begin", NO_ARGUMENT, () -> rig.x.begin(-1));
+        rig.run(1).hasStatus(0x00400000);
+        halted().hasStatus(0).status(7).hasStatus(7);
+        dead().hasStatus(0).status(7).hasStatus(7);
+    }
+
     private static void neitherHaltedNorDead() {
         Rig halted = halted();
         halted.refused("begin(16)", NO_ARGUMENT, () -> halted.x.begin(16));
@@ -269,6 +307,16 @@ public final class PromisesTest {
             rig.refused("run(0)", NO_ARGUMENT, () -> rig.x.run(0));
             rig.refused("run(201)", NO_ARGUMENT, () -> rig.x.run(201));
         }
+    }
+
+    /** An exception is no instruction: what its handler does comes with the next. */
+    private static void exceptionsAreNoInstructions() {
+        Rig rig = rig("BREAK").program(3, 1, 1).bytes(1096, 3);
+        rig.run(1).state(1, 1).register(15, 1096).state(3, 1).run(1).state(1, 2).register(15, 1096).state(3, 2);
+        rig.run(5).state(1, 7).state(3, 7).hasInner(0, 1600 - 7 * 8);
+        rig("up to n").program(1, 1, 1, 1, 0).run(3).state(0, 0).state(1, 3).register(15, 131).run(200, 2).state(0, 1)
+                .state(1, 5);
+        rig("200 and no more").program(26, 0x51, 48, 0xFC).run(200).register(1, -100).state(1, 200).register(15, 128);
     }
 
     private static void howMany() {
@@ -325,6 +373,20 @@ public final class PromisesTest {
         dead.reach(0, false, 0, -51).state(0, 2).state(3, 1);
     }
 
+    private static void codedFaults() {
+        Rig rig = Rig.mapped(CHECK, "reach").longAt(1292, 9);
+        rig.reach(0, false, 3, 512).reach(64, false, 3, -50).reach(192, false, 3, -51).reach(64, true, 3, -54)
+                .reach(192, true, 3, -55).reach(64, false, 0, -60).reach(64, true, 0, -64).reach(ONE + 36 * 64, false, 0, -62)
+                .reach(ONE + 36 * 64, true, 0, -66).reach(ONE + 37 * 64, false, 0, -53).reach(ONE + 37 * 64, true, 0, -57);
+    }
+
+    private static void whatItIs() {
+        rig("well").state(0, 0).program(1).run(1).state(0, 0).state(1, 1);
+        halted().state(0, 1).state(1, 1).state(2, 0).state(3, 0);
+        dead().state(0, 2).state(1, 1).state(2, 4).state(3, 1);
+        rig("by a fault").program(3).run(1).state(0, 0).state(1, 1);
+    }
+
     private static void noSuchState() {
         int[] none = {-1, 4, 5, -4, 256, LEAST, LEAST + 1, GREATEST};
         for (Rig rig : new Rig[] {rig("new"), halted(), dead()}) {
@@ -353,20 +415,26 @@ public final class PromisesTest {
         words.hold("its addresses are taken mod 2048", PromisesTest::fillRoundTheEnd);
         words.hold("The long at an address in storage.", PromisesTest::lookRoundTheEnd);
         words.hold("Register r becomes v.", PromisesTest::setsOneRegister);
-        words.hold("IndexOutOfBoundsException: there is none such (0 .. 15).", PromisesTest::noSuchRegister);
+        words.hold("IndexOutOfBoundsException: there is none such (0 .. 15).", PromisesTest::setRefuses);
+        words.hold("Register r. IndexOutOfBoundsException likewise.", PromisesTest::registerRefuses);
         words.hold("An inner register becomes v", PromisesTest::setsOneInner);
         words.hold("(it is MAPPED: 1 if v isn't 0)", PromisesTest::mappedIs1);
-        words.hold("IndexOutOfBoundsException: there is none such.", PromisesTest::noSuchInner);
+        words.hold("IndexOutOfBoundsException: there is none such.", PromisesTest::setInnerRefuses);
+        words.hold("An inner register. IndexOutOfBoundsException likewise.", PromisesTest::innerRefuses);
         words.hold("Each mode has a stack register; R14 is that of the mode that is.", PromisesTest::stackOfTheMode);
         words.hold("IllegalArgumentException: it has bits that must be 0.", PromisesTest::beginRefuses);
         words.hold("The status becomes this", PromisesTest::beginTakesAll);
+        words.hold("`int status()`: The status.", PromisesTest::theStatus);
         words.hold("the machine is neither HALTED nor DEAD", PromisesTest::neitherHaltedNorDead);
         words.hold("IllegalArgumentException: n is not 1 .. 200.", PromisesTest::notOneTo200);
         words.hold("IllegalStateException: it is HALTED or DEAD.", PromisesTest::haltedOrDead);
+        words.hold("At most n instructions (with what exceptions they make)", PromisesTest::exceptionsAreNoInstructions);
         words.hold("how many; one that HALTs counts, one that leaves the machine DEAD, too", PromisesTest::howMany);
         words.hold("IllegalArgumentException: mode is not 0 .. 3.", PromisesTest::reachRefuses);
         words.hold("for reading or writing in a mode", PromisesTest::reachInAMode);
         words.hold("(Nothing is changed.)", PromisesTest::reachChangesNothing);
+        words.hold("that, else -10 - the number of the fault * 10 - its flag.", PromisesTest::codedFaults);
+        words.hold("what 0: 0, 1 HALTED, 2 DEAD; 1: instructions done in all", PromisesTest::whatItIs);
         words.hold("NONE (-1) for another what.", PromisesTest::noSuchState);
         words.hold("the number of the latest exception, 0 if there was none; 3: exceptions in all",
                 PromisesTest::stateCounts);

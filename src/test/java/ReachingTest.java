@@ -330,6 +330,19 @@ public final class ReachingTest {
                 .register(0, 0x04030201);
     }
 
+    /** Of a byte, only that byte is reached; of a long, no more than its four: the page behind isn't VALID. */
+    private static void noByteMore() {
+        mapped("a byte read").bytes(128, TEST_BYTE, 0x61).with(1, 127).passes().hasStatus(4);
+        mapped("a byte written").bytes(128, MOVE_BYTE, 5, 0x61).with(1, 127).passes().look(636, 5 << 24)
+                .look(1292, OPEN + 9 + MODIFIED).look(1296, SHUT + 10);
+        mapped("a byte narrowed").bytes(128, 17, 5, 0x61).with(1, 127).passes().look(636, 5 << 24);
+        mapped("a long read").bytes(128, TEST, 0x61).with(1, 124).passes();
+        mapped("a long written").bytes(128, MOVE, 5, 0x61).with(1, 124).passes().look(636, 5).look(1296, SHUT + 10);
+        mapped("a long pushed").bytes(128, PUSH, 5).status(0x03C00000).with(14, 128).passes().look(636, 5);
+        mapped("a long popped").bytes(128, 5).status(0x03C00000).with(14, 124).longAt(636, 9).passes().register(15, 9)
+                .register(14, 128);
+    }
+
     /** Longs that lie in two regions. */
     private static void overRegions() {
         int last = 4 * (PAGES - 1);
@@ -455,6 +468,7 @@ public final class ReachingTest {
                 ReachingTest::orderOfLooks);
         words.hold("Its address is that of the byte.", ReachingTest::addressOfTheByte);
         words.hold("Longs are reached byte by byte, the lowest first", ReachingTest::lowestFirst);
+        words.hold("TO REACH a byte at an address, to read or to write", ReachingTest::noByteMore);
         words.hold("Longs are reached byte by byte", ReachingTest::overRegions);
         words.hold("what is written is written only when all its bytes can be reached", ReachingTest::allBytesOrNone);
         words.hold("then byte by byte, the lowest first, MODIFIED is set in its entry (found before), and the byte is written",
