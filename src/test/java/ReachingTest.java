@@ -335,6 +335,11 @@ public final class ReachingTest {
         mapped("a byte read").bytes(128, TEST_BYTE, 0x61).with(1, 127).passes().hasStatus(4);
         mapped("a byte written").bytes(128, MOVE_BYTE, 5, 0x61).with(1, 127).passes().look(636, 5 << 24)
                 .look(1292, OPEN + 9 + MODIFIED).look(1296, SHUT + 10);
+        // Nor is anything written beside it, where the long before was written, or at the first of storage.
+        rig("a byte behind a long").program(MOVE, 0x53, 0x61, MOVE_BYTE, 0x53, 0x62).with(3, 0x44332211).with(1, 700).with(2, 600)
+                .passes().look(700, 0x44332211).longAt(700, -1).passes().look(700, -1).look(600, 0x11).look(0, 0);
+        rig("a byte alone").program(MOVE_BYTE, 0x53, 0x62).with(3, 0x44332211).with(2, 600).passes().look(600, 0x11).look(0, 0)
+                .look(2044, 0);
         mapped("a byte narrowed").bytes(128, 17, 5, 0x61).with(1, 127).passes().look(636, 5 << 24);
         mapped("a long read").bytes(128, TEST, 0x61).with(1, 124).passes();
         mapped("a long written").bytes(128, MOVE, 5, 0x61).with(1, 124).passes().look(636, 5).look(1296, SHUT + 10);
